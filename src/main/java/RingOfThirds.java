@@ -144,14 +144,14 @@ public final class RingOfThirds {
     public int rows(int passes, int what) {
         if (passes < 0 || passes > MOST_LOOK_PASSES || what < 0 || what > 1) return OUTSIDE;
         if (people.size == 0) return STATE;
-        spreadWays(passes);
+        ways.spread(people, looks, placeOf(now.holder, now.marks), passes);
         return what == 0 ? ways.total() : ways.holders();
     }
 
     public int lookNext(int passes) {
         if (passes < 0 || passes > MOST_LOOK_PASSES) return OUTSIDE;
         if (people.size == 0) return STATE;
-        spreadWays(passes);
+        ways.spread(people, looks, placeOf(now.holder, now.marks), passes);
         return ways.tellingSort();
     }
 
@@ -201,23 +201,20 @@ public final class RingOfThirds {
         for (int person = 0; person < people.size; person++) {
             for (int what = 0; what < ABOUTS; what++) h = mixed(h, about(person, what));
         }
-        if (people.size > 0) h = mixedWithFuture(h);
+        if (people.size > 0) {
+            for (int person = 0; person < people.size; person++) h = mixed(h, chain(person, now.marks, 0));
+            h = mixed(h, calm(2, 0));
+            h = mixed(h, calm(2, CALM_FIRST_PASS));
+            h = mixed(h, calm(2, CALM_FIRST_PASS + 1));
+            for (int passes = 0; passes <= 4; passes++) {
+                h = mixed(h, rows(passes, 0));
+                h = mixed(h, rows(passes, 1));
+            }
+            h = mixed(h, lookNext(3));
+        }
         for (int i = 0; i < page.length; i++) h = mixed(h, page.at(i));
         for (int what = 0; what < COUNTS; what++) h = mixed(h, count(what));
         return h;
-    }
-
-    private long mixedWithFuture(long start) {
-        long h = start;
-        for (int person = 0; person < people.size; person++) h = mixed(h, chain(person, now.marks, 0));
-        h = mixed(h, calm(2, 0));
-        h = mixed(h, calm(2, CALM_FIRST_PASS));
-        h = mixed(h, calm(2, CALM_FIRST_PASS + 1));
-        for (int passes = 0; passes <= 4; passes++) {
-            h = mixed(h, rows(passes, 0));
-            h = mixed(h, rows(passes, 1));
-        }
-        return mixed(h, lookNext(3));
     }
 
     private static long mixed(long h, long number) {
@@ -253,8 +250,9 @@ public final class RingOfThirds {
     private boolean playTriedRow(int passes) {
         trial.copyFrom(now);
         for (int turn = 0; turn < passes && turn < MOST_CALM_PASSES; turn++) {
-            if (trial.holder == triedRow[turn]) return false;
-            handOver(trial, triedRow[turn]);
+            int person = triedRow[turn];
+            if (trial.holder == person) return false;
+            trial.moveTo(person, people.touched(person, trial.marks));
         }
         return true;
     }
@@ -278,15 +276,6 @@ public final class RingOfThirds {
     private int valuesOf(int sort) {
         if (sort == SORT_STONE) return STONES;
         return sort == SORT_WORD ? WORDS : people.size;
-    }
-
-    private void spreadWays(int passes) {
-        ways.begin(placeOf(now.holder, now.marks));
-        ways.keepFitting(looks, 0);
-        for (int step = 1; step <= passes; step++) {
-            ways.spread(people);
-            ways.keepFitting(looks, step);
-        }
     }
 
     /** Plays on the trial alone, as SEASONS tell what would be; answers the SEED then. */
@@ -660,26 +649,28 @@ public final class RingOfThirds {
         private final int[] waysBefore = new int[PLACES];
         private final int[] waysBySight = new int[WORDS];
 
-        private void begin(int start) {
+        private void spread(People people, Looks looks, int start, int passes) {
             Arrays.fill(waysTo, 0);
             if (start >= 0 && start < PLACES) waysTo[start] = 1;
+            keepFitting(looks, 0);
+            for (int step = 1; step <= passes; step++) {
+                passOn(people);
+                keepFitting(looks, step);
+            }
         }
 
-        private void spread(People people) {
+        private void passOn(People people) {
             for (int place = 0; place < PLACES; place++) {
                 waysBefore[place] = waysTo[place];
                 waysTo[place] = 0;
             }
             for (int place = 0; place < PLACES; place++) {
-                if (waysBefore[place] > 0) spreadFrom(place, waysBefore[place], people);
-            }
-        }
-
-        private void spreadFrom(int place, int howMany, People people) {
-            for (int person = 0; person < people.size; person++) {
-                if (person == holderAt(place)) continue;
-                int to = placeOf(person, people.touched(person, marksAt(place)));
-                if (to >= 0 && to < PLACES) waysTo[to] += howMany;
+                if (waysBefore[place] == 0) continue;
+                for (int person = 0; person < people.size; person++) {
+                    if (person == holderAt(place)) continue;
+                    int to = placeOf(person, people.touched(person, marksAt(place)));
+                    if (to >= 0 && to < PLACES) waysTo[to] += waysBefore[place];
+                }
             }
         }
 

@@ -143,6 +143,7 @@ public final class LooksTest {
         seasonsAre(x, 1, 0, 0, 0, 12345);
         seasonsAre(x, 1, 4, 1, 8, 119106029);
         seasonsAre(x, 1, Integer.MAX_VALUE, 1, 8, 1043980748);
+        seasonsAre(x, 5, 4, 2, 16, 1009760233);
         int[] counts = {2, 0, 0, 0, 0, 0, 0, 0, 0, 1};
         for (int what = 0; what < counts.length; what++) {
             due.is("count(" + what + ") behind seasons", x.count(what), counts[what]);

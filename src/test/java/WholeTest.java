@@ -26,8 +26,8 @@ public final class WholeTest {
         x.claim(0);
         x.claim(1);
         x.forget();
-        x.look(2, 0, 0);
         x.look(2, 0, 1);
+        x.look(2, 0, 0);
         due.is("restore()", x.restore(), 1);
         due.is("digest() behind restore()", x.digest(), digest);
         due.is("claim(0), PAID in the IMAGE", x.claim(0), 0);
