@@ -17,6 +17,12 @@ final class Due {
         System.out.println(test + ": " + call + " answered " + got + ", due is " + want);
     }
 
+    /** Makes the call; where tells of which object it is. */
+    void of(String where, RingOfThirds x, long want, String name, int... with) {
+        Call call = new Call(name, with);
+        is(where + ": " + call, call.on(x), want);
+    }
+
     void holds(String what, boolean so) {
         is(what, so ? 1 : 0, 1);
     }

@@ -5,10 +5,8 @@ public final class FutureTest {
     public static void main(String[] args) {
         chain();
         chainByTheLeast();
-        chainRefused();
         calm();
         calmByMemories();
-        calmRefused();
         due.end();
     }
 
@@ -45,17 +43,6 @@ public final class FutureTest {
         due.is("chain(" + person + ", " + marks + ", 1)", x.chain(person, marks, 1), first);
     }
 
-    private static void chainRefused() {
-        RingOfThirds x = Texts.ring("pc;00");
-        due.is("chain(2, 32, 2)", x.chain(2, 32, 2), RingOfThirds.UNKNOWN);
-        due.is("chain(-1, 0, 0)", x.chain(-1, 0, 0), RingOfThirds.UNKNOWN);
-        due.is("chain(0, 32, 0)", x.chain(0, 32, 0), RingOfThirds.OUTSIDE);
-        due.is("chain(0, -1, 0)", x.chain(0, -1, 0), RingOfThirds.OUTSIDE);
-        due.is("chain(0, 0, 2)", x.chain(0, 0, 2), RingOfThirds.OUTSIDE);
-        due.is("chain(0, 0, -1)", x.chain(0, 0, -1), RingOfThirds.OUTSIDE);
-        due.is("chain without a RING", new RingOfThirds().chain(0, 0, 0), RingOfThirds.UNKNOWN);
-    }
-
     private static void calm() {
         RingOfThirds x = Texts.ring("pc;00");
         calmIs(x, 1, 1, 1, -1, -1, -1);
@@ -89,17 +76,5 @@ public final class FutureTest {
         for (int i = 0; i < row.length; i++) {
             due.is("calm(" + passes + ", " + (10 + i) + ")", x.calm(passes, 10 + i), row[i]);
         }
-    }
-
-    private static void calmRefused() {
-        RingOfThirds x = Texts.ring("pc;00");
-        int[][] outside = {{0, 0}, {5, 0}, {-1, 10}, {1, 1}, {1, -1}, {1, 9}, {1, 14}, {1, Integer.MIN_VALUE}};
-        for (int[] call : outside) {
-            String name = "calm(" + call[0] + ", " + call[1] + ")";
-            due.is(name, x.calm(call[0], call[1]), RingOfThirds.OUTSIDE);
-            due.is(name + " without a RING", new RingOfThirds().calm(call[0], call[1]), RingOfThirds.OUTSIDE);
-        }
-        due.is("calm(4, 0) without a RING", new RingOfThirds().calm(4, 0), RingOfThirds.STATE);
-        due.is("calm(1, 13) without a RING", new RingOfThirds().calm(1, 13), RingOfThirds.STATE);
     }
 }

@@ -4,17 +4,14 @@ public final class LooksTest {
 
     public static void main(String[] args) {
         look();
-        lookRefused();
         lookValues();
         forget();
         rows();
         rowsByLooks();
         rowsFromWhichever();
-        rowsRefused();
         lookNext();
         seasons();
         seasonsFromHistory();
-        seasonsRefused();
         due.end();
     }
 
@@ -24,22 +21,6 @@ public final class LooksTest {
         due.is("a ninth look", x.look(0, 0, 0), RingOfThirds.FULL);
         due.is("a ninth look that is none", x.look(9, 0, 0), RingOfThirds.OUTSIDE);
         due.is("count(7)", x.count(7), 8);
-    }
-
-    private static void lookRefused() {
-        RingOfThirds x = Texts.ring("ppp;00");
-        int[][] outside = {{-1, 0, 0}, {9, 0, 0}, {0, -1, 0}, {0, 3, 0}, {0, 0, -1}, {0, 0, 4}, {0, 1, -1},
-            {0, 1, 8}, {0, 2, -1}, {0, 2, 3}};
-        for (int[] call : outside) {
-            String name = "look(" + call[0] + ", " + call[1] + ", " + call[2] + ")";
-            due.is(name, x.look(call[0], call[1], call[2]), RingOfThirds.OUTSIDE);
-            due.is(name + " without a RING", new RingOfThirds().look(call[0], call[1], call[2]), RingOfThirds.OUTSIDE);
-        }
-        due.is("count(7)", x.count(7), 0);
-        RingOfThirds none = new RingOfThirds();
-        due.is("look(0, 0, 3) without a RING", none.look(0, 0, 3), RingOfThirds.STATE);
-        due.is("look(8, 1, 7) without a RING", none.look(8, 1, 7), RingOfThirds.STATE);
-        due.is("look(0, 2, 0) without a RING", none.look(0, 2, 0), RingOfThirds.OUTSIDE);
     }
 
     private static void lookValues() {
@@ -108,17 +89,6 @@ public final class LooksTest {
         due.is("rows(" + passes + ", 1)", x.rows(passes, 1), bits);
     }
 
-    private static void rowsRefused() {
-        RingOfThirds x = Texts.ring("pc;00");
-        int[][] outside = {{-1, 0}, {9, 0}, {0, 2}, {0, -1}, {Integer.MAX_VALUE, Integer.MIN_VALUE}};
-        for (int[] call : outside) {
-            String name = "rows(" + call[0] + ", " + call[1] + ")";
-            due.is(name, x.rows(call[0], call[1]), RingOfThirds.OUTSIDE);
-            due.is(name + " without a RING", new RingOfThirds().rows(call[0], call[1]), RingOfThirds.OUTSIDE);
-        }
-        due.is("rows(8, 1) without a RING", new RingOfThirds().rows(8, 1), RingOfThirds.STATE);
-    }
-
     private static void lookNext() {
         due.is("lookNext(0), all alike", Texts.ring("ppp;00").lookNext(0), 0);
         due.is("lookNext(1) by who has it", Texts.ring("ppp;00").lookNext(1), 2);
@@ -131,10 +101,6 @@ public final class LooksTest {
         x.look(0, 2, 1);
         due.is("lookNext(0) of no ROWS", x.lookNext(0), RingOfThirds.NONE);
         due.is("lookNext(8) of no ROWS", x.lookNext(8), RingOfThirds.NONE);
-        due.is("lookNext(-1)", x.lookNext(-1), RingOfThirds.OUTSIDE);
-        due.is("lookNext(9)", x.lookNext(9), RingOfThirds.OUTSIDE);
-        due.is("lookNext(9) without a RING", new RingOfThirds().lookNext(9), RingOfThirds.OUTSIDE);
-        due.is("lookNext(0) without a RING", new RingOfThirds().lookNext(0), RingOfThirds.STATE);
     }
 
     /** Of two, seed 0 draws 0, who has it; seeds 4 and MAX draw 1. */
@@ -172,17 +138,5 @@ public final class LooksTest {
         seasonsAre(x, 1, Integer.MAX_VALUE, 1, 8, 1043980748);
         x.claim(0);
         seasonsAre(x, 1, Integer.MAX_VALUE, 0, 8, 1043980748);
-    }
-
-    private static void seasonsRefused() {
-        RingOfThirds x = Texts.ring("pc;00");
-        int[][] outside = {{0, 0, 0}, {61, 0, 0}, {-1, 0, 0}, {1, -1, 0}, {1, Integer.MIN_VALUE, 0}, {1, 0, 3}, {1, 0, -1}};
-        for (int[] call : outside) {
-            String name = "seasons(" + call[0] + ", " + call[1] + ", " + call[2] + ")";
-            due.is(name, x.seasons(call[0], call[1], call[2]), RingOfThirds.OUTSIDE);
-            due.is(name + " without a RING", new RingOfThirds().seasons(call[0], call[1], call[2]),
-                RingOfThirds.OUTSIDE);
-        }
-        due.is("seasons(60, 0, 2) without a RING", new RingOfThirds().seasons(60, 0, 2), RingOfThirds.STATE);
     }
 }

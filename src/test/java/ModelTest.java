@@ -81,32 +81,7 @@ public final class ModelTest {
     private void same(String name, int... with) {
         if (calls >= CALLS) return;
         calls++;
-        due.is("run " + run + ", call " + calls + ": " + name + java.util.Arrays.toString(with),
-            ofRing(name, with), ofModel(name, with));
-    }
-
-    private long ofRing(String name, int[] a) {
-        switch (name) {
-            case "letter": return ring.letter(a[0]);
-            case "blank": return ring.blank();
-            case "fault": return ring.fault();
-            case "ring": return ring.ring();
-            case "about": return ring.about(a[0], a[1]);
-            case "as": return ring.as(a[0], a[1]);
-            case "pass": return ring.pass(a[0]);
-            case "claim": return ring.claim(a[0]);
-            case "chain": return ring.chain(a[0], a[1], a[2]);
-            case "calm": return ring.calm(a[0], a[1]);
-            case "look": return ring.look(a[0], a[1], a[2]);
-            case "forget": return ring.forget();
-            case "rows": return ring.rows(a[0], a[1]);
-            case "lookNext": return ring.lookNext(a[0]);
-            case "seasons": return ring.seasons(a[0], a[1], a[2]);
-            case "image": return ring.image();
-            case "restore": return ring.restore();
-            case "count": return ring.count(a[0]);
-            default: return ring.digest();
-        }
+        due.of("run " + run + ", call " + calls, ring, ofModel(name, with), name, with);
     }
 
     private long ofModel(String name, int[] a) {

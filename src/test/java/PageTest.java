@@ -7,6 +7,7 @@ public final class PageTest {
         letter();
         blank();
         fault();
+        faultByEachCode();
         ring();
         ringIsGone();
         due.end();
@@ -27,16 +28,9 @@ public final class PageTest {
 
     private static void letter() {
         RingOfThirds x = new RingOfThirds();
-        due.is("letter(0)", x.letter(0), RingOfThirds.OUTSIDE);
-        due.is("letter(127)", x.letter(127), RingOfThirds.OUTSIDE);
-        due.is("letter(MIN)", x.letter(Integer.MIN_VALUE), RingOfThirds.OUTSIDE);
-        due.is("letter(MAX)", x.letter(Integer.MAX_VALUE), RingOfThirds.OUTSIDE);
-        due.is("letter(1)", x.letter(1), 1);
-        due.is("letter(126)", x.letter(126), 2);
-        for (int i = 3; i <= 10; i++) due.is("letter " + i, x.letter('p'), i);
-        due.is("an eleventh letter", x.letter('p'), RingOfThirds.FULL);
-        due.is("an eleventh letter that is none", x.letter(127), RingOfThirds.OUTSIDE);
-        due.is("count(8)", x.count(8), 10);
+        for (int i = 1; i <= 10; i++) due.of("letters", x, i, "letter", "dswc;25~!x".charAt(i - 1));
+        due.of("letters", x, 10, "count", 8);
+        due.of("letters", x, 7, "fault");
     }
 
     private static void blank() {
@@ -77,6 +71,33 @@ public final class PageTest {
 
     private static void faultOf(String text, int want) {
         due.is("fault() of '" + text + "'", Texts.page(text).fault(), want);
+    }
+
+    /** Behind each text ahead, just the letters told go on with a RING: PEOPLE 2 to 4, STONE 0 to 3, WORD 0 to 7. */
+    private static void faultByEachCode() {
+        codesAre("", "pcswd");
+        codesAre("p", "pcswd");
+        codesAre("pc", "pcswd;");
+        codesAre("pcs", "pcswd;");
+        codesAre("pcsw", ";");
+        codesAre("dd;", "0123");
+        codesAre("pcsw;", "0123");
+        codesAre("dd;3", "01234567");
+        codesAre("pcsw;0", "01234567");
+        codesAre("dd;37", "");
+        codesAre("pcsw;00", "");
+    }
+
+    private static void codesAre(String ahead, String going) {
+        for (int code = 1; code <= 126; code++) {
+            RingOfThirds x = Texts.page(ahead);
+            x.letter(code);
+            int want = going.indexOf(code) >= 0 ? ahead.length() + 1 : ahead.length();
+            due.of("'" + ahead + "' and code " + code, x, want, "fault");
+            boolean whole = want > ahead.length() && ahead.length() - ahead.indexOf(';') == 2 && ahead.contains(";");
+            int answer = whole ? ahead.indexOf(';') : RingOfThirds.STATE;
+            due.of("'" + ahead + "' and code " + code, x, answer, "ring");
+        }
     }
 
     private static void ring() {

@@ -4,10 +4,8 @@ public final class PeopleTest {
 
     public static void main(String[] args) {
         about();
-        aboutRefused();
         as();
         passByKind();
-        passRefused();
         claim();
         claimByTurns();
         due.end();
@@ -36,15 +34,6 @@ public final class PeopleTest {
         for (int what = 0; what < wants.length; what++) {
             due.is("about(" + person + ", " + what + ")", x.about(person, what), wants[what]);
         }
-    }
-
-    private static void aboutRefused() {
-        RingOfThirds x = Texts.ring("cs;15");
-        due.is("about(2, 0)", x.about(2, 0), RingOfThirds.UNKNOWN);
-        due.is("about(-1, 0)", x.about(-1, 0), RingOfThirds.UNKNOWN);
-        due.is("about(MAX, 7)", x.about(Integer.MAX_VALUE, 7), RingOfThirds.UNKNOWN);
-        due.is("about(0, 7)", x.about(0, 7), RingOfThirds.OUTSIDE);
-        due.is("about(0, -1)", x.about(0, -1), RingOfThirds.OUTSIDE);
     }
 
     private static void as() {
@@ -89,18 +78,6 @@ public final class PeopleTest {
         due.is("count(1) of " + text, x.count(1), person);
         due.is("count(2) of " + text, x.count(2), want / 8);
         due.is("count(3) of " + text, x.count(3), want % 8);
-    }
-
-    private static void passRefused() {
-        RingOfThirds x = Texts.ring("pc;00");
-        due.is("pass(2)", x.pass(2), RingOfThirds.UNKNOWN);
-        due.is("pass(-1)", x.pass(-1), RingOfThirds.UNKNOWN);
-        due.is("pass(0)", x.pass(0), RingOfThirds.STATE);
-        due.is("about(0, 2)", x.about(0, 2), RingOfThirds.NONE);
-        due.is("count(4)", x.count(4), 0);
-        x.pass(1);
-        due.is("pass(1)", x.pass(1), RingOfThirds.STATE);
-        due.is("count(4) then", x.count(4), 1);
     }
 
     private static void claim() {
