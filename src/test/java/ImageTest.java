@@ -17,6 +17,7 @@ public final class ImageTest {
         keepsWhoMadeAClaim();
         keepsHowOftenEachWasPaid();
         keepsLooks();
+        keepsEachPartOfALook();
         keepsNoLooks();
         keepsNotThePage();
         keepsNotHowOftenRead();
@@ -194,6 +195,19 @@ public final class ImageTest {
         due.of("ppp;00", x, 4, "rows", 2, 1);
         due.of("ppp;00", x, 1, "rows", 2, 0);
         due.of("ppp;00", x, 3, "look", 0, 0, 0);
+    }
+
+    private static void keepsEachPartOfALook() {
+        RingOfThirds x = Texts.ring("ppp;00");
+        x.look(1, 2, 1);
+        x.image();
+        x.forget();
+        x.look(2, 0, 3);
+        due.of("ppp;00", x, 6, "rows", 1, 1);
+        due.of("ppp;00", x, 0, "rows", 2, 1);
+        x.restore();
+        due.of("ppp;00 restored", x, 2, "rows", 1, 1);
+        due.of("ppp;00 restored", x, 5, "rows", 2, 1);
     }
 
     private static void keepsNoLooks() {

@@ -9,6 +9,7 @@ public final class NoneTest {
         noneSuch();
         noPassIsNeeded();
         noChain();
+        noChainBehindAnotherRing();
         noSuchTurn();
         noRows();
         nobodyHasIt();
@@ -79,6 +80,25 @@ public final class NoneTest {
         due.of("pw;05", y, NONE, "chain", 1, 5, 1);
         y.pass(1);
         due.of("pw;05 behind pass(1)", y, NONE, "chain", 0, 5, 0);
+        for (int marks = 0; marks < 32; marks += 8) {
+            int person = marks / 8 % 2;
+            due.of("cc;00", Texts.ring("cc;00"), NONE, "chain", 1 - person, marks, 0);
+            due.of("cc;00", Texts.ring("cc;00"), marks == 0 ? 0 : marks / 8, "chain", person, marks, 0);
+        }
+    }
+
+    /** What chain() found of the RING that is gone is not taken for what can be of this one. */
+    private static void noChainBehindAnotherRing() {
+        RingOfThirds x = Texts.ring("dscp;25");
+        for (int person = 0; person < 4; person++) {
+            for (int marks = 0; marks <= 31; marks++) x.chain(person, marks, 0);
+        }
+        Texts.type(x, "pp;00");
+        x.ring();
+        for (int marks = 0; marks <= 31; marks++) {
+            due.of("pp;00 behind dscp;25", x, marks == 0 ? 0 : NONE, "chain", 0, marks, 0);
+            due.of("pp;00 behind dscp;25", x, marks == 0 ? 1 : NONE, "chain", 1, marks, 1);
+        }
     }
 
     private static void noSuchTurn() {
@@ -145,6 +165,8 @@ public final class NoneTest {
         calmIs("pcp;00", new int[] {0, 0, 0, 0}, "2", "10", "102", "1010");
         calmIs("pc;00", new int[] {1, 0, 1, 0}, "1", "10", "101", "1010");
         calmIs("cc;00", new int[] {1, 1, 1, 1}, "1", "10", "101", "1010");
+        calmIs("ccp;25", new int[] {0, 1, 0}, "2", "10", "202");
+        calmIs("psw;00", new int[] {0, 0, 0}, "2", "10", "202");
     }
 
     private static void calmIs(String text, int[] wrong, String... rows) {
@@ -165,6 +187,7 @@ public final class NoneTest {
         due.of("STONE as WORD", x, 0, "lookNext", 2);
         due.of("STONE as who has it", Texts.ring("ppc;00"), 0, "lookNext", 1);
         due.of("WORD as who has it", Texts.ring("pps;00"), 1, "lookNext", 1);
+        due.of("WORD as who has it", Texts.ring("psw;00"), 1, "lookNext", 2);
     }
 
     private static void lookNextOfOneSort() {

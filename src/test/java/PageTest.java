@@ -90,13 +90,13 @@ public final class PageTest {
 
     private static void codesAre(String ahead, String going) {
         for (int code = 1; code <= 126; code++) {
-            RingOfThirds x = Texts.page(ahead);
-            x.letter(code);
-            int want = going.indexOf(code) >= 0 ? ahead.length() + 1 : ahead.length();
-            due.of("'" + ahead + "' and code " + code, x, want, "fault");
-            boolean whole = want > ahead.length() && ahead.length() - ahead.indexOf(';') == 2 && ahead.contains(";");
-            int answer = whole ? ahead.indexOf(';') : RingOfThirds.STATE;
-            due.of("'" + ahead + "' and code " + code, x, answer, "ring");
+            String text = ahead + (char) code;
+            boolean goesOn = going.indexOf(code) >= 0;
+            boolean isRing = text.matches("[pcswd]{2,4};[0-3][0-7]");
+            RingOfThirds x = Texts.page(text);
+            String where = "'" + ahead + "' and code " + code;
+            due.of(where, x, goesOn ? text.length() : ahead.length(), "fault");
+            due.of(where, x, isRing ? text.indexOf(';') : RingOfThirds.STATE, "ring");
         }
     }
 

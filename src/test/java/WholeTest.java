@@ -38,6 +38,10 @@ public final class WholeTest {
         Texts.type(y, "pd;3");
         due.is("digest() then", y.digest(), Digests.sumOf(y, "pd;3"));
         due.is("digest() twice", y.digest(), y.digest());
+        for (String text : new String[] {"ccp;25", "psw;00", "pd;31", "wwww;07"}) {
+            RingOfThirds z = Texts.ring(text);
+            due.of(text, z, Digests.sumOf(z, ""), "digest");
+        }
     }
 
     /** Told by hand for a new object: 887, then 0, -1 and eight times 0. */
