@@ -5,6 +5,7 @@ import java.lang.reflect.Modifier;
 import java.nio.charset.StandardCharsets;
 import java.nio.file.Files;
 import java.nio.file.Path;
+import java.util.Arrays;
 import java.util.TreeSet;
 import java.util.regex.Matcher;
 import java.util.regex.Pattern;
@@ -23,6 +24,7 @@ public final class FaceTest {
         constants();
         members();
         insideClasses();
+        sizes();
         words();
         due.end();
     }
@@ -80,6 +82,29 @@ public final class FaceTest {
         }
     }
 
+    /** Rule 3 of fields' types, rule 11 of how many parameters and fields. */
+    private static void sizes() {
+        Class<?>[] inside = RingOfThirds.class.getDeclaredClasses();
+        Class<?>[] all = Arrays.copyOf(inside, inside.length + 1);
+        all[inside.length] = RingOfThirds.class;
+        for (Class<?> one : all) {
+            int fields = 0;
+            for (Field field : one.getDeclaredFields()) {
+                if (!Modifier.isStatic(field.getModifiers())) fields++;
+                due.holds(field + " is of a type that is told", isTypeTold(field.getType()));
+            }
+            due.holds(one + " has at most twenty fields", fields <= 20);
+            for (Method method : one.getDeclaredMethods()) {
+                due.holds(method + " takes at most seven parameters", method.getParameterCount() <= 7);
+            }
+        }
+    }
+
+    private static boolean isTypeTold(Class<?> type) {
+        Class<?> part = type.isArray() ? type.getComponentType() : type;
+        return part.isPrimitive() || part.getNestHost() == RingOfThirds.class;
+    }
+
     private static void words() throws Exception {
         String source = Files.readString(Path.of(SOURCE), StandardCharsets.ISO_8859_1);
         String code = source.replaceAll("(?s)/\\*.*?\\*/", "").replaceAll("//[^\n]*", "").replaceAll("'.'", "' '");
@@ -89,5 +114,10 @@ public final class FaceTest {
         due.holds("no word that LANGUAGE.md refuses", !found.find());
         Matcher imports = Pattern.compile("\\bimport\\s+([^;]*);").matcher(code);
         while (imports.find()) due.holds("import " + imports.group(1), imports.group(1).equals("java.util.Arrays"));
+        Matcher library = Pattern.compile("\\b(Math|Arrays|Integer|Long|String|StringBuilder|List|ArrayList)\\b(\\.\\w+)?")
+            .matcher(code.replaceAll("import [^;]*;", ""));
+        while (library.find()) {
+            due.holds(library.group() + " is told", library.group().matches("Math\\.(min|max)|Arrays\\.fill"));
+        }
     }
 }
